@@ -237,9 +237,9 @@ public final class TornBag {
         int left = sumOf(world.goods.weight, world.thingsAt(first));
         int right = sumOf(world.goods.weight, world.thingsAt(other));
         int best = 1;
-        int least = tired(left, right, 1);
+        int least = tiredBy(left, right, 1);
         for (int n = 2; n <= STEPS; n++) {
-            int tired = tired(left, right, n);
+            int tired = tiredBy(left, right, n);
             if (tired < least) {
                 least = tired;
                 best = n;
@@ -369,7 +369,7 @@ public final class TornBag {
     }
 
     /** What the hand that bears more has borne at home, if hands change every n steps. */
-    private int tired(int first, int other, int n) {
+    private int tiredBy(int first, int other, int n) {
         int left = 0;
         int right = 0;
         boolean isChanged = false;

@@ -121,6 +121,11 @@ public final class SheetsTest {
         row("32 from here", x, 2, 3, 1, 2, 0, 0, 2, 0, 0);
         for (int s = 1; s < 4; s++) x.step();
         Check.due("32 home", x.film(0, 3, 1, 6), 0);
+        x = Check.walk("...", "T,C;1e2@0,1e5@0,20@0");
+        x.set(0, 1, 10);
+        x.sheet(0, 0, 3);
+        Check.due("32 corner, then bottom", x.film(0, 0, 0, 0), 3);
+        row("32 corner, then bottom", x, 1, 0, 0, 1, 0, 6);
     }
 
     private static void promise32Refused() {
