@@ -24,11 +24,11 @@ public final class TornBag {
     private static final int MOST_BUSES = 4, MOST_SAGS = 8, TOLD_WETS = 100;
     private static final int END = -1, FAULT = -20;
 
-    private final World world = new World();
+    private final World world;
     private final World kept = new World();
     private boolean isKept = false;
-    private final Outlook outlook = new Outlook(world);
-    private final Chase chase = new Chase(world);
+    private final Outlook outlook;
+    private final Chase chase;
     private final Bag seen = new Bag();
     private final Tape tape = new Tape();
     private final Way readWay = new Way();
@@ -37,6 +37,10 @@ public final class TornBag {
     private final Sheet[] sheets = {new Sheet(), new Sheet(), new Sheet(), new Sheet()};
 
     public TornBag() {
+        World empty = new World();
+        world = empty;
+        outlook = new Outlook(empty);
+        chase = new Chase(empty);
     }
 
     // ---- 1 bags, things, the way
