@@ -2,7 +2,9 @@ import java.util.Random;
 
 /** Long runs of calls drawn by a fixed seed: the class and the plain model must answer alike. */
 public final class RandomRunsTest {
-    private static final int RUNS = 2000, CALLS = 500, FILMS = 4000;
+    private static final int RUNS = 2000, FILMS = 4000;
+    /** The most letters of a text and its call: with fewer calls left, calls that make several are not drawn. */
+    private static final int TEXT = 110;
     private static final String[] CALL = {"bag", "thing", "pack", "give", "of", "strength", "force", "told", "set", "type",
         "way", "shop", "sort", "count", "step", "undo", "again", "seed", "holds", "odds", "packing", "doubled", "leave",
         "rolls", "run", "hands", "torn", "image", "restore", "sagged", "film", "sheet", "drop", "item", "copy"};
@@ -41,14 +43,19 @@ public final class RandomRunsTest {
     private void go(int run) {
         int all = 0;
         for (int often : OFTEN) all += often;
-        while (calls < CALLS - 110) {
+        while (calls < Calls.MOST) {
             int dice = below(all);
             int which = 0;
             while (dice >= OFTEN[which]) dice -= OFTEN[which++];
             if (calls == 0) which = 10;
             if (calls > 0 && y.count(0) == 0) which = 11;
+            if (calls > Calls.MOST - TEXT && isLong(CALL[which])) which = 14;
             call("run " + run + " call " + calls + " ", CALL[which]);
         }
+    }
+
+    private static boolean isLong(String name) {
+        return name.equals("way") || name.equals("shop") || name.equals("sagged");
     }
 
     /** A film's items can be seen by the sags of an empty bag alone, so a new shop comes behind it. */
