@@ -254,6 +254,7 @@ public final class BagsBoundsTest {
         Calls.due("13 FAULT: no bag", "shop[;1]=-20 shop[,P;1]=-20 shop[P,;1]=-22 shop[P,,P;1]=-22 shop[p;1]=-20 shop[X;1]=-20 shop[1]=-20");
         Calls.due("13 FAULT: the 4th bag", "shop[P,P,P,P;1]=-25 shop[P,P,P ,P;1]=-26");
         Calls.due("13 FAULT: between bags", "shop[PP;1]=-21 shop[P P;1]=-22 shop[P.P;1]=-21 shop[P;;1]=-22 shop[P:1]=-21");
+        Calls.due("13 FAULT: a thing without ; ahead of it", "shop[P1]=-21 shop[P 1]=-22 shop[P,D1]=-23 shop[P,D 1@0]=-24 shop[P,P,P1]=-25 shop[P,1]=-22 count(0..1)=0");
         Calls.due("13 FAULT: no thing", "shop[P;,1]=-22 shop[P;1,,1]=-24 shop[P;w1]=-22 shop[P;r]=-22 shop[P;@0]=-22 shop[P;x]=-22");
         Calls.due("13 FAULT: the 9th thing", "shop[P;1,1,1,1,1,1,1,1,1]=-37 shop[P;1,1,1,1,1,1,1,1 ,1]=-38 shop[P;1,1,1,1,1,1,1,1x]=-37");
         Calls.due("13 FAULT: between things", "shop[P;1;1]=-23 shop[P;1.1]=-23 shop[P;1P]=-23 shop[P;1x]=-23");

@@ -98,6 +98,11 @@ public final class OutlookBoundsTest {
         Calls.due("22 of like ones the first as a row: all bad", "way[.] shop[C,C;30,30] set(0..1,1,999) packing(-1)=0 packing(0..1)=0");
         Calls.due("22 the row goes by things, the lower first", "way[.] shop[C,C;30,20,10] set(0,1,69) set(1,1,59) packing(-1)=NONE packing(0..2)=0,1,1");
         Calls.due("22 the row is of all that are moved", "way[.] shop[C,C;10,20,30] set(0,1,69) set(1,1,59) packing(-1)=NONE packing(0..2)=0,0,1");
+        Calls.due("22 a later bag ahead of an earlier one", "way[.] shop[C,C;30,10] set(0,1,89) set(1,1,69) packing(-1)=NONE packing(0..1)=1,0",
+            "shop[C,C,C;30,20,10] set(0,1,89) set(1,1,79) set(2,1,69) packing(-1)=NONE packing(0..2)=2,1,0");
+        Calls.due("22 all bad, whatever was found ahead of it", "way[.] shop[C,C;30,10] set(0,1,89) set(1,1,69) packing(0..1)=1,0 set(0..1,1,999) packing(-1)=0 packing(0..1)=0");
+        Calls.due("22 of those that are moved now, not ahead of it", "way[..] shop[T,C;1e4@0,2,3] set(0,1,15) packing(-1..2)=NONE,1,0,0 step()=1 packing(-1..2)=NONE,NONE,0,0",
+            "set(1,1,98) set(0,1,67) packing(-1..2)=1,NONE,0,0");
         Calls.due("22 six in three bags", "way[.] shop[C,C,C;30,30,30,30,30,30] set(0..2,1,39) packing(-1)=NONE packing(0..5)=0,0,1,1,2,2");
     }
 
@@ -188,6 +193,8 @@ public final class OutlookBoundsTest {
         Calls.due("25 down rolls not back", fallAt("ddd.", 2) + "rolls(0)=0");
         Calls.due("25 all 20 up", fallAt("uuuuuuuuuuuuuuuuuuuu", 19) + "rolls(0)=19");
         Calls.due("25 all 20 down", fallAt("dddddddddddddddddddd", 0) + "rolls(0)=19");
+        Calls.due("25 down, to the end of a new, shorter way", fallAt("ddddd", 0) + "rolls(0)=4 way[dd]=2 rolls(0)=1 way[d]=1 rolls(0)=0");
+        Calls.due("25 behind the end of a new, shorter way", fallAt("uuuu", 3) + "rolls(0)=3 way[uuu]=3 rolls(0)=0 way[uuuu]=4 rolls(0)=3 way[dddd]=4 rolls(0)=0");
         Calls.due("25 wherever one is now", fallAt("ddd", 0) + "2*step() rolls(0)=2 again() rolls(0)=2");
     }
 
@@ -211,6 +218,8 @@ public final class OutlookBoundsTest {
         Calls.due("26 two that lie ahead: 1, 1 and 3 seconds by 5", bags + "5r@0,6r@0,7r@1] set(0,1,99) step()=3 set(1,1,99) step()=4 rolls(0..2)=0,0,1 run(-1)=18 run(0..2)=0,1,2");
         Calls.due("26 three that lie ahead are too many", bags + "5r@0,6r@0,7r@0,8r@1] set(0,1,99) step()=7 set(1,1,99) step()=8 run(-1)=26 run(0..3)=0,1,3,2");
         Calls.due("26 worth nothing: it runs as a row", bags.replace("shop[C,C,C;", "bag(3) thing(1,0,0,0,1) thing(1,0,0,0,1) pack(0..1,0) "), "step() set(0,1,99) step()=3 run(-1)=0 run(0..1)=0,1");
+        Calls.due("26 of those that lie there now, not ahead of it", "way[.] shop[C;1r@0,2r@0,4r@0,8r@0] set(0,1,99) step()=15 run(-1)=15 give(0) run(-1)=14 run(0..3)=1,2,3,NONE",
+            "give(2) run(-1)=10 run(0..2)=1,3,NONE give(3) run(-1)=2 run(0..1)=1,NONE give(1) run(-1)=0 run(0)=NONE");
         Calls.due("26 one dear against two cheap", bags + "3r@0,4r@0,30r@1] 2*step() set(0,1,99) step()=3 2*step() set(1,1,99) step()=4 rolls(0..2)=2,2,5 run(-1)=34 run(0..2)=1,2,0");
         String down = "way[dddddddddddddddddddd] shop[C,C;9r@0,1r@1] ";
         Calls.due("26 far, in time: 19 and 39 seconds by 59", down + "set(0,1,99) step()=1 9*step() set(1,1,99) step()=2 rolls(0..1)=19,9 run(-1)=10 run(0..1)=1,0");

@@ -67,6 +67,8 @@ public final class SheetsBoundsTest {
         Calls.due("31 behind the first step: 3 of wet, 2 of wear", setup + "item(0,0,0,1) sagged(0,0,0,0,1,0..1)=10,5");
         Calls.due("31 behind the bench: 3 of wet, 2 of wear, without edges", setup + "step() set(0,1,0) item(0,0,0,1) sagged(0,0,0,0,1,0..1)=10,5 way[.] step() undo()=0 set(0,1,0) sagged(0,0,0,0,1,0..1)=10,5");
         Calls.due("31 a bench is not by edges", "way[s] shop[C;1e5@0] sheet(0,0,1) item(0,0,0,1) sagged(0,0,0,0,1,0..1)=10,8 way[.] sagged(0,0,0,0,1,0..1)=10,4");
+        Calls.due("31 each step by its own sort", "way[.s.] shop[C;1e5@0] sheet(0,0,3) item(0,0,1..2,1) sagged(0,0,0,0,3,0..1)=2,2 item(0,0,0,1) sagged(0,0,0,0,3,0..1)=2,4",
+            "way[s..] sagged(0,0,0,0,3,0..1)=0,NONE item(0,0,0,0) sagged(0,0,0,0,3,0..1)=4,2");
         Calls.due("31 behind 8 steps", "way[........] shop[C;1w5@0] sheet(0,0,8) item(0,0,0..7,0) item(0,0,1..2,1) item(0,0,3,2) item(0,0,4..5,3) item(0,0,6..7,4) sagged(0,0,0,0,8,0..1)=2,0",
             "item(0,0,0,1) sagged(0,0,0,0,8,0..1)=0,NONE sagged(0,0,0,1,7,0..1)=2,6");
         Calls.due("31 from item i on", setup + "item(0,0,3,1) item(0,0,4,1) sagged(0,0,0,3,2,0..1)=5,5");

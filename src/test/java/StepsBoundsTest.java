@@ -226,5 +226,8 @@ public final class StepsBoundsTest {
         Calls.due("30 eight, of more, whatever came since",
             TWENTY_FLAT + " shop[D;1w1@0] 11*step() image() 5*undo() 3*step() seed(5) 6*step() restore()=1",
             "count(3)=11 8*undo()=7,6,5,4,3,2,1,0 undo()=NONE count(3)=3 of(0,1)=3 seed(0)=1");
+        Calls each = Calls.due("30 each of the eight, as then",
+            TWENTY_FLAT + " shop[D;1w1@0] 11*step() image() seed(5) 9*step() set(0,0,99) undo()=7 restore()=1 count(5)=8");
+        for (int s = 10; s >= 3; s--) each.go("undo()=" + (s - 3) + " count(3)=" + s + " of(0,1..2)=" + s + " seed(1)=1");
     }
 }
