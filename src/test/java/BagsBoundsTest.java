@@ -52,6 +52,8 @@ public final class BagsBoundsTest {
         Calls.due("2 wet and worn are 0, all places whole at first", "bag(3)=0 of(0,1..6)=0");
         Calls.due("2 a new one has nothing of one that was there",
             "way[..] shop[P,P,P;30@2] set(2,0,40) step()=1 set(2,1,30) of(2,1..3)=40,30,1 shop[P;1] bag(0)=1 bag(2)=2 of(2,1..6)=0");
+        Calls.due("2 the others stay as they are", "bag(3)=0 set(0,0,9) set(0,1,8) bag(1)=1 set(1,0,7) set(1,1,6) bag(2)=2 of(0,0..2)=3,9,8 of(1,0..2)=1,7,6 of(2,0..2)=2,0,0");
+        Calls.due("2 however many things there are", "8*thing(1,0,0,0,0) bag(0..2)=0,1,2 bag(0)=FULL pack(7,2)=3");
         Calls.due("2 it holds nothing of what is nowhere or on the ground", "way[.] shop[P;30@0,5] set(0,0,40) step()=1 bag(0)=1 of(1,4)=0");
     }
 
@@ -61,6 +63,7 @@ public final class BagsBoundsTest {
         Calls.due("3 FULL behind a shop of 8", "shop[" + EIGHT + "]=8 thing(1,0,0,0,0)=FULL");
         Calls.due("3 the eighth behind a shop of 7", "shop[P;1,2,3,4,5,6,7]=7 thing(1,0,0,0,0)=7 thing(1,0,0,0,0)=FULL");
         Calls.due("3 BAD ahead of FULL", "8*thing(1,0,0,0,0) thing(0,0,0,0,0)=BAD thing(1,0,0,0,2)=BAD");
+        Calls.due("3 the others stay where they are", "way[.] shop[P,C;30@0,2@1,3] set(0,0,40) step()=1 thing(4,0,0,0,0)=3 told(0..3,5)=10,1,3,3");
         Calls.due("3 a new one is nowhere, wherever one of its number was",
             "way[.] shop[P;30@0,1@0] set(0,0,40) step()=3 shop[P;1] thing(2,0,0,0,0)=1 told(1,5)=3 count(4)=0");
     }

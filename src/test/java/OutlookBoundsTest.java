@@ -47,6 +47,7 @@ public final class OutlookBoundsTest {
         Calls.due("20 of any bag the first: the third", shop + "set(0,1,66) set(1,1,67) set(2,1,68) holds(0)=2");
         Calls.due("20 of any bag the first: the first", shop + "set(0,1,69) set(1,1,67) set(2,1,68) holds(0)=1");
         Calls.due("20 of any bag the first: two at once", shop + "set(0,1,67) set(1,1,67) holds(0)=3");
+        Calls.due("20 of any bag the first: the only one that holds something", "way[..] shop[C,C,C;30@2] set(2,1,69) holds(0)=1 odds(0..1)=0,1 leave(0..1)=1,30 torn(2,1,0..1)=8,1");
         Calls.due("20 it goes by places as they are now", "way[...] shop[P;30@0] set(0,1,45) step()=0 of(0,3)=2 set(0,1,27) holds(0)=NONE set(0,1,29) holds(0)=2 set(0,1,30) holds(0)=1");
         Calls.due("20 nothing is changed", shop + "set(0,1,69) holds(0)=1 holds(0)=1 of(0,1..4)=0,69,0,1 count(3)=0");
     }
@@ -133,6 +134,7 @@ public final class OutlookBoundsTest {
         Calls.due("23 NONE: no bag of kind paper", "way[...] shop[D,T,C;30@0,30@1,30@2] set(0..2,1,40) holds(7)=0 doubled()=NONE");
         Calls.due("23 the third bag", "way[...] shop[C,D,P;1@0,1@1,30@2] set(2,1,45) doubled()=2");
         Calls.due("23 with jolt 7", "way[b] shop[P;30@0] set(0,1,34) doubled()=NONE set(0,1,35) doubled()=0");
+        Calls.due("23 with jolt 7 when it is double, too", "way[b] shop[P;30@0] set(0,1,73) doubled()=0 set(0,1,74) doubled()=0 set(0,1,75) doubled()=NONE");
         Calls.due("23 at home", "way[.] shop[P;30@0] step() set(0,1,999) doubled()=NONE");
         Calls.due("23 nothing is changed", two + "set(0,1,42) doubled()=0 of(0..1,0)=0 doubled()=0");
     }
@@ -252,6 +254,7 @@ public final class OutlookBoundsTest {
         Calls.due("27 19 steps", "shop[P,P;30@0,30@0,1@1] way[...................] hands(0,1,0..1)=1,609");
         Calls.due("27 most", "shop[P,P;30@0,30@0,30@0,30@0,30@1,30@1,30@1,30@1] " + TWENTY_FLAT + " hands(0,1,1)=2400");
         Calls.due("27 from the step on", shop + "way[.....] hands(0,1,1)=47 step() hands(0,1,1)=34 3*step() hands(0,1,1)=13");
+        Calls.due("27 by weight, not by worth", "way[...] 2*bag(3) thing(10,0,0,3,0) thing(4,0,0,99,0) pack(0,0) pack(1,1) hands(0,1,0..1)=1,24");
         Calls.due("27 by what is in them now", shop + "way[...] hands(0,1,1)=30 give(0) hands(0,1,1)=11");
     }
 

@@ -113,6 +113,7 @@ public final class SheetsBoundsTest {
         Calls.due("32 the first handle, then the last", "way[...] shop[P,C;30@0] set(0,1,45) sheet(0,2,3) film(0,0,2,0)=3 sagged(1,0,2,0..2,1,1)=0,10,0");
         Calls.due("32 nothing falls on a bench", "way[s.] shop[P,C;30@0] set(0,0,99) sheet(0,3,2) film(7,0,3,0)=2 sagged(1,0,3,0..1,1,1)=0,10");
         Calls.due("32 the corner, then the bottom", "way[.......] shop[T,C;1e4@0,20@0] set(0,1,15) sheet(0,0,7) film(0,0,0,0)=7 sagged(1,0,0,0..6,1,1)=10,0,0,0,0,0,20");
+        Calls.due("32 the only one that holds something is the last", "way[..] shop[C,C,C;1@2] set(2,1,98) sheet(0,0,2) film(0,0,0,0)=2 sagged(0,0,0,0..1,1,1)=0,10");
         Calls.due("32 no bag, no thing", "way[..] sheet(0,0,2) item(0,0,0..1,5) film(0,0,0,0)=2 shop[C;1] sagged(0,0,0,0..1,1,1)=0");
         Calls.due("32 the eighth thing in bytes is below 0", "way[..] shop[C,C;1,1,1,1,1,1,1,1@0] set(0,1,99) sheet(0,0,2) film(0,0,0,0)=2 sagged(1,0,0,0..1,1,0)=0,10");
     }

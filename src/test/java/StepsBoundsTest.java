@@ -214,6 +214,7 @@ public final class StepsBoundsTest {
         Calls.due("30 what is done then leaves the image", "way[...] shop[P;30w1@0] image() set(0,0,40) step()=1 restore()=1 of(0,1..3)=0 step()=0 restore()=1 of(0,1..3)=0 told(0,5)=0");
         Calls.due("30 kinds, what things are, where they are", "way[.] shop[T,C;30w1e2r@0,4] set(0,1,30) step()=1 image() shop[P;1@0] restore()=1",
             "of(0..1,0)=2,3 told(0,0..5)=30,1,2,30,1,10 told(1,0..5)=4,0,0,4,0,3 of(0,1..3)=1,33,1");
+        Calls.due("30 weight and worth apart", "bag(0) thing(9,1,2,70,1) image() shop[D;3@0] restore()=1 told(0,0..5)=9,1,2,70,1,3 of(0,0)=0");
         Calls.due("30 the way, the step, the draw", "way[bu] step() image() way[ddd] seed(3) restore()=1 count(2..3)=2,1 sort(0..2)=3,1,BAD seed(1)=1103527590");
         Calls.due("30 bags and things that came since are none", "shop[P;1] image() bag(0) thing(2,0,0,0,0) restore()=1 of(1,0)=BAD told(1,0)=BAD bag(3)=1 of(1,0)=3 thing(9,0,0,0,0)=1 told(1,0)=9");
     }
