@@ -741,7 +741,7 @@ public final class TornBag {
         }
 
         private int fallenBy(int place) {
-            if (place == CORNER) return Integer.lowestOneBit(things);
+            if (place == CORNER) return things & -things;
             return isTorn(gone) ? things : 0;
         }
 

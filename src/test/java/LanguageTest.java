@@ -23,6 +23,9 @@ public final class LanguageTest {
     private static final List<String> CONSTANTS = List.of("BAD", "NOT", "FULL", "NONE", "NULL", "CAST", "INDEX", "SIZE");
     private static final int[] VALUES = {-1, -2, -3, -4, -11, -12, -13, -14};
 
+    private static final Set<String> LIBRARY =
+        Set.of("Math.max", "Math.min", "Integer.bitCount", "Arrays.fill", "System.arraycopy");
+
     public static void main(String[] args) throws ReflectiveOperationException, IOException {
         face();
         constants();
@@ -93,12 +96,24 @@ public final class LanguageTest {
         }
         Matcher imports = Pattern.compile("(?m)^import (.*);").matcher(source);
         while (imports.find()) Check.holds("import " + imports.group(1), imports.group(1).equals("java.util.Arrays"));
+        library(source);
         for (char sign : source.toCharArray()) if (sign > 126) Check.holds("sign " + (int) sign, false);
         int length = 0;
         for (String line : source.split("\n")) {
             length = line.isBlank() ? 0 : length + 1;
             Check.holds("a block of some sixty lines at most: " + line, length <= 60);
         }
+    }
+
+    /** A name of the library is followed by a dot; what is called behind it must be one of those that rule 4 lists. */
+    private static void library(String source) {
+        Matcher calls = Pattern.compile("\\b([A-Z][a-z]\\w*)\\.(\\w+)\\(").matcher(source);
+        while (calls.find()) {
+            String call = calls.group(1) + "." + calls.group(2);
+            Check.holds(call + " is in the list", LIBRARY.contains(call));
+        }
+        Matcher types = Pattern.compile("\\b(String|StringBuilder|List|ArrayList|Object|Iterator|Comparable|Character)\\b").matcher(source);
+        Check.holds("no type of the library", !types.find());
     }
 
     /** The dearest calls, often: a row that a call made would show as many bytes. */
